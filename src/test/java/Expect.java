@@ -27,6 +27,15 @@ final class Expect {
         answer(call, due, made);
     }
 
+    /** The call is due to be possible, whatever it answers. */
+    static void possible(String call, Call made) {
+        answer(call, "an answer", () -> isThrown(answerOf(made)) ? "an exception" : "an answer");
+    }
+
+    static boolean isThrown(Object answer) {
+        return answer instanceof Class;
+    }
+
     /** The answer, or the class of the exception; exactly that class is due, not one below it. */
     static Object answerOf(Call made) {
         try {
