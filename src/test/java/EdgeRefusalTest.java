@@ -21,6 +21,10 @@ public final class EdgeRefusalTest {
         Object run(Migrationledger x);
     }
 
+    private interface Later {
+        String answers(Migrationledger x);
+    }
+
     private static final class Named {
         final String name;
         final Use use;
@@ -52,9 +56,10 @@ public final class EdgeRefusalTest {
         from("a blocked step", EdgeRefusalTest::blocked);
         from("a lease just over", EdgeRefusalTest::leaseOver);
         from("drift", EdgeRefusalTest::drifted);
+        from("drift while a change runs", EdgeRefusalTest::driftedWhileRunning);
         from("a full list, all done", () -> Ledgers.withDone(12, 12));
         from("a full table", EdgeRefusalTest::fullTable);
-        Expect.answer("more than 5000 calls were refused", true, () -> refused > 5000);
+        Expect.answer("more than 10000 calls were refused", true, () -> refused > 10000);
         Expect.end();
     }
 
@@ -164,6 +169,7 @@ public final class EdgeRefusalTest {
         x.addChange(2, 0, 2);
         x.insert(0, 1, 2, 3);
         x.insert(1, MOST, MOST, MOST);
+        x.insert(5, 0, MOST, 7);
         x.insert(20, -8, -9, -10);
         x.insert(39, 4, 5, 6);
         return x;
@@ -176,11 +182,12 @@ public final class EdgeRefusalTest {
         return x;
     }
 
-    /** Change 1 is done, change 2 has the cursor 10; row 1 is such that no step is blocked. */
+    /** Change 1 is done, change 2 has the cursor 10; the rows 1 and 5 are such that no step is blocked. */
     private static Migrationledger midway() {
         Migrationledger x = lockHeld();
         x.write(1, 0, 0);
         x.write(1, 1, 7);
+        x.write(5, 1, 0);
         x.begin(2);
         x.step(2, 40, 0);
         x.begin(2);
@@ -235,6 +242,12 @@ public final class EdgeRefusalTest {
         return x;
     }
 
+    private static Migrationledger driftedWhileRunning() {
+        Migrationledger x = midway();
+        x.edit(1, 0, 1, 3);
+        return x;
+    }
+
     private static Migrationledger fullTable() {
         Migrationledger x = Ledgers.withChanges(2);
         Ledgers.fill(x);
@@ -247,23 +260,28 @@ public final class EdgeRefusalTest {
     // ---- the comparison
 
     private static void from(String state, Start start) {
-        String due = later(start.make());
+        from(state + ", then work", start, EdgeRefusalTest::lookAndWork);
+        from(state + ", then time", start, EdgeRefusalTest::letTimePass);
+    }
+
+    private static void from(String state, Start start, Later later) {
+        String due = later.answers(start.make());
         for (Named call : changing) {
-            compare(state, call, start.make(), due, true);
+            Migrationledger x = start.make();
+            if (Expect.isThrown(Expect.answerOf(() -> call.use.run(x)))) {
+                refused++;
+                compare(state, call, due, later, x);
+            }
         }
         for (Named call : asking) {
-            compare(state, call, start.make(), due, false);
+            Migrationledger x = start.make();
+            Expect.answerOf(() -> call.use.run(x));
+            compare(state, call, due, later, x);
         }
     }
 
-    private static void compare(String state, Named call, Migrationledger x, String due, boolean onlyRefused) {
-        boolean thrown = Expect.isThrown(Expect.answerOf(() -> call.use.run(x)));
-        if (thrown) {
-            refused++;
-        }
-        if (thrown || !onlyRefused) {
-            Expect.answer(state + ", behind " + call.name, "alike", () -> difference(due, later(x)));
-        }
+    private static void compare(String state, Named call, String due, Later later, Migrationledger x) {
+        Expect.answer(state + ", behind " + call.name, "alike", () -> difference(due, later.answers(x)));
     }
 
     private static String difference(String due, String got) {
@@ -277,10 +295,14 @@ public final class EdgeRefusalTest {
         return dueLines.length == gotLines.length ? "alike" : gotLines.length + " lines";
     }
 
-    /** What an object answers from now on: a look at it, then every way to go on, with a look behind each. */
-    private static String later(Migrationledger x) {
+    /** A look at the object, every way to go on at once, and a look behind them. */
+    private static String lookAndWork(Migrationledger x) {
         StringBuilder text = new StringBuilder();
-        look(text, x);
+        lookAtChanges(text, x);
+        lookAtRows(text, x);
+        note(text, "holder", () -> x.holder());
+        note(text, "cursor", () -> x.cursor());
+        note(text, "share", () -> x.share());
         note(text, "step", () -> x.step(Math.max(0, x.holder()), 3, 0));
         note(text, "cursor", () -> x.cursor());
         for (int worker = 0; worker <= 3; worker++) {
@@ -304,12 +326,21 @@ public final class EdgeRefusalTest {
         return text.toString();
     }
 
-    private static void look(StringBuilder text, Migrationledger x) {
-        lookAtChanges(text, x);
-        lookAtRows(text, x);
-        note(text, "holder", () -> x.holder());
-        note(text, "cursor", () -> x.cursor());
-        note(text, "share", () -> x.share());
+    /** The holder at each tick until every lease is over, and what the workers can do then. */
+    private static String letTimePass(Migrationledger x) {
+        StringBuilder text = new StringBuilder();
+        for (int tick = 0; tick <= 101; tick++) {
+            note(text, "holder", () -> x.holder());
+            note(text, "pass", () -> x.pass(1));
+        }
+        for (int worker = 0; worker <= 3; worker++) {
+            int w = worker;
+            note(text, "take", () -> x.take(w, 1));
+            note(text, "step", () -> x.step(w, 1, 0));
+            note(text, "giveBack", () -> Ledgers.giveBack(x, w));
+            note(text, "restart", () -> x.restart(w));
+        }
+        return text.toString();
     }
 
     private static void lookAtChanges(StringBuilder text, Migrationledger x) {
